@@ -401,7 +401,7 @@ public final class GuildSeals {
         }
 
         boolean isGuildOf(int matter, int guild) {
-            return amountOf(matter, guild) != 0;
+            return amounts[matter * GUILDS + guild] != 0;
         }
 
         int amountOf(int matter, int guild) {
@@ -566,7 +566,7 @@ public final class GuildSeals {
             for (int matter = 0; matter < matters; matter++) {
                 int doubters = setOfDoubters(matter);
                 int knowers = setOfGuilds(matter) & ~doubters & awakeOnes;
-                if ((doubters & awakeOnes & 1 << guild) != 0 && knowers != 0) {
+                if ((doubters & awakeOnes & (1 << guild)) != 0 && knowers != 0) {
                     return true;
                 }
             }
@@ -733,8 +733,9 @@ public final class GuildSeals {
 
         private int countAnswers(int matter, int answer) {
             int count = 0;
-            for (int guild = 0; guild < GUILDS; guild++) {
-                count += isGuildOf(matter, guild) && answerOf(matter, guild) == answer ? 1 : 0;
+            int first = matter * GUILDS;
+            for (int cell = first; cell < first + GUILDS; cell++) {
+                count += amounts[cell] != 0 && answers[cell] == answer ? 1 : 0;
             }
             return count;
         }
@@ -1020,7 +1021,7 @@ public final class GuildSeals {
             switch (kind) {
                 case ORDER_SET:
                     readSign('=');
-                    return readAmount();
+                    return readPlusOrMinus() * readOneOrTwoDigits();
                 case ORDER_INQUIRE:
                     readSign('<');
                     return readDigit();
@@ -1043,28 +1044,26 @@ public final class GuildSeals {
             position += hasFailed ? 0 : 1;
         }
 
-        private int readAmount() {
-            boolean isNegative = nextCharacter() == '-';
-            readSign(isNegative ? '-' : '+');
-            int size = readOneOrTwoDigits();
-            return isNegative ? -size : size;
+        private int readPlusOrMinus() {
+            boolean isMinus = nextCharacter() == '-';
+            readSign(isMinus ? '-' : '+');
+            return isMinus ? -1 : 1;
         }
 
         private int readOneOrTwoDigits() {
             int number = readDigit();
-            return isDigitNext() ? 10 * number + readDigit() : number;
+            return isDigit(nextCharacter()) ? 10 * number + readDigit() : number;
         }
 
         private int readDigit() {
-            int digit = nextCharacter() - '0';
-            hasFailed = hasFailed || !isDigitNext();
+            char digit = nextCharacter();
+            hasFailed = hasFailed || !isDigit(digit);
             position += hasFailed ? 0 : 1;
-            return digit;
+            return digit - '0';
         }
 
-        private boolean isDigitNext() {
-            char next = nextCharacter();
-            return next >= '0' && next <= '9';
+        private boolean isDigit(char c) {
+            return c >= '0' && c <= '9';
         }
 
         // No order has a character 0, so that it can stand for the end of the text.
@@ -1084,21 +1083,19 @@ public final class GuildSeals {
         }
 
         int carryOutAll(Orders orders) {
-            int outcome = DONE;
-            for (int i = 0; i < orders.count && outcome == DONE; i++) {
-                outcome = carryOut(orders.kinds[i], orders.matters[i], orders.guilds[i], orders.numbers[i]);
+            for (int i = 0; i < orders.count; i++) {
+                int kind = orders.kinds[i];
+                int matter = orders.matters[i];
+                int guild = orders.guilds[i];
+                int number = orders.numbers[i];
+                if (isWrong(kind, matter, guild, number)) {
+                    return WRONG;
+                }
+                if (isRefused(kind, matter, guild, number)) {
+                    return REFUSED;
+                }
+                perform(kind, matter, guild, number);
             }
-            return outcome;
-        }
-
-        private int carryOut(int kind, int matter, int guild, int number) {
-            if (isWrong(kind, matter, guild, number)) {
-                return WRONG;
-            }
-            if (isRefused(kind, matter, guild, number)) {
-                return REFUSED;
-            }
-            perform(kind, matter, guild, number);
             return DONE;
         }
 
