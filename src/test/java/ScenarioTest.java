@@ -1,149 +1,150 @@
-import java.lang.reflect.InvocationTargetException;
-import java.lang.reflect.Method;
 import java.nio.file.Files;
 import java.nio.file.Path;
-import java.util.ArrayList;
 import java.util.List;
 import java.util.regex.Matcher;
 import java.util.regex.Pattern;
 import java.util.stream.Stream;
 
 /**
- * Runs the calls that the files in src/test/scenarios tell, in the notation of the document's
- * examples; README.md describes it.
+ * Runs the calls that the files in src/test/scenarios and src/test/boundaries tell, in the notation
+ * of the document's examples; README.md describes it. After each step the laws are looked at, too.
  */
 public final class ScenarioTest {
-    private static final Path FOLDER = Path.of("src", "test", "scenarios");
+    private static final Path SCENARIOS = Path.of("src", "test", "scenarios");
+    private static final Path BOUNDARIES = Path.of("src", "test", "boundaries");
     private static final int PROMISES = 35;
+    // What a portrait and the answers to a refusal need beside the calls of the scenario.
+    private static final int CALLS_FOR_A_PORTRAIT = 20;
+    // Portraits of all of some hundred equal calls would take long and tell nothing new.
+    private static final int TIMES_WITH_LAWS = 20;
     private static final Pattern STEP =
-            Pattern.compile("(\\w+)\\s*(?:\\(([^)]*)\\)|\"([^\"]*)\")\\s*->\\s*(.+)");
+            Pattern.compile("(?:(\\d+) times )?(\\w+)\\s*(?:\\(([^)]*)\\)|\"([^\"]*)\")\\s*->\\s*(.+)");
+
+    // A semicolon and a blank, but not within quotation marks.
+    private static final Pattern AFTER_STEP = Pattern.compile("; (?=(?:[^\"]*\"[^\"]*\")*[^\"]*$)|;$");
 
     private static int steps = 0;
     private static int wrong = 0;
 
+    private Player player;
+    private Portrait portrait;
+    private boolean hasLaws;
+    private String place;
+
     public static void main(String[] args) throws Exception {
-        List<Path> files;
-        try (Stream<Path> all = Files.list(FOLDER)) {
-            files = all.filter(f -> f.toString().endsWith(".txt")).sorted().toList();
-        }
-        for (int promise = 1; promise <= PROMISES; promise++) {
-            Path due = FOLDER.resolve(String.format("promise%02d.txt", promise));
-            if (!files.contains(due)) {
-                report(due.toString(), "is missing");
-            }
-        }
-        for (Path file : files) {
-            runFile(file);
-        }
-        System.out.println(steps + " steps of " + files.size() + " files, " + wrong + " wrong");
+        runFolder(SCENARIOS);
+        runFolder(BOUNDARIES);
+        System.out.println(steps + " steps, " + wrong + " wrong");
         if (wrong != 0) {
             System.exit(1);
         }
     }
 
-    private static void runFile(Path file) throws Exception {
-        GuildSeals seals = null;
+    private static void runFolder(Path folder) throws Exception {
+        List<Path> files;
+        try (Stream<Path> all = Files.list(folder)) {
+            files = all.filter(f -> f.toString().endsWith(".txt")).sorted().toList();
+        }
+        for (int promise = 1; promise <= PROMISES; promise++) {
+            Path due = folder.resolve(String.format("promise%02d.txt", promise));
+            if (!files.contains(due)) {
+                report(due + " is missing");
+            }
+        }
+        for (Path file : files) {
+            new ScenarioTest().runFile(file);
+        }
+    }
+
+    private void runFile(Path file) throws Exception {
         List<String> lines = Files.readAllLines(file);
         for (int i = 0; i < lines.size(); i++) {
             String line = lines.get(i).strip();
-            String place = file.getFileName() + ":" + (i + 1);
+            place = file.getParent().getFileName() + "/" + file.getFileName() + ":" + (i + 1) + ": ";
             if (line.startsWith("==")) {
-                seals = new GuildSeals();
-            } else if (!line.isEmpty() && !line.startsWith("#")) {
-                for (String step : line.split("; |;$")) {
-                    runStep(seals, place, step.strip());
+                player = new Player();
+                portrait = null;
+            } else if (!line.isEmpty() && !line.startsWith("#") && !line.startsWith(">")) {
+                for (String step : AFTER_STEP.split(line)) {
+                    runStep(step.strip());
                 }
             }
         }
     }
 
-    private static void runStep(GuildSeals seals, String place, String step) throws Exception {
+    private void runStep(String step) {
         steps++;
         Matcher m = STEP.matcher(step);
-        if (!m.matches() || seals == null) {
-            report(place, "cannot read: " + step);
+        if (!m.matches() || player == null) {
+            report(place + "cannot read: " + step);
             return;
         }
-        String due = m.group(4).strip();
+        int times = m.group(1) == null ? 1 : Integer.parseInt(m.group(1));
+        for (int i = 0; i < times; i++) {
+            hasLaws = i < TIMES_WITH_LAWS;
+            String got = resultOf(m, m.group(5).strip());
+            if (!got.equals(m.group(5).strip())) {
+                report(place + step + " ... but it answered " + got);
+            }
+        }
+    }
+
+    private String resultOf(Matcher step, String due) {
         String got;
-        if (m.group(3) != null) {
-            got = answerOfText(seals, m.group(1), m.group(3));
-        } else if (m.group(1).equals("written")) {
-            got = written(seals, m.group(2).strip());
+        if (step.group(4) != null) {
+            got = answerOfText(step.group(2), step.group(4));
+        } else if (step.group(2).equals("written")) {
+            got = written(step.group(3).strip());
         } else {
-            got = answer(seals, m.group(1), split(m.group(2)));
+            got = answer(step.group(2), step.group(3).isBlank() ? new String[0] : step.group(3).strip().split(",\\s*"));
         }
         if (got.equals("throws UnsupportedOperationException") && due.startsWith("refused")) {
-            got = "refused " + seals.refusal(false) + " " + seals.refusal(true);
+            return "refused " + player.answer("refusal", "false") + " " + player.answer("refusal", "true");
         }
-        if (!got.equals(due)) {
-            report(place, step + " ... but it answered " + got);
+        if (got.equals("throws IllegalArgumentException") && due.startsWith("error")) {
+            return "error " + player.answer("errorPosition");
         }
+        return got;
     }
 
     /** append "abc" appends a text; run "abc" runs it, too. */
-    private static String answerOfText(GuildSeals seals, String name, String text) throws Exception {
+    private String answerOfText(String name, String text) {
         String last = "nothing";
+        portrait = null;
         for (char c : text.toCharArray()) {
-            last = answer(seals, "append", List.of(String.valueOf((int) c)));
+            last = player.answer("append", String.valueOf((int) c));
         }
-        return name.equals("append") ? last : answer(seals, name, List.of());
+        return name.equals("append") ? last : answer(name);
     }
 
-    private static String written(GuildSeals seals, String matter) throws Exception {
-        String length = answer(seals, "line", List.of(matter));
+    private String written(String matter) {
+        String length = answer("line", matter);
         if (length.startsWith("throws")) {
             return length;
         }
         StringBuilder text = new StringBuilder();
         for (int i = 0; i < Integer.parseInt(length); i++) {
-            text.append(seals.character(i));
+            text.append(player.answer("character", String.valueOf(i)));
         }
-        String beyond = answer(seals, "character", List.of(length));
+        String beyond = player.answer("character", length);
         return beyond.equals("throws IndexOutOfBoundsException") ? text.toString() : "too long";
     }
 
-    private static List<String> split(String arguments) {
-        List<String> all = new ArrayList<>();
-        for (String argument : arguments.split(",")) {
-            if (!argument.isBlank()) {
-                all.add(argument.strip());
+    private String answer(String name, String... arguments) {
+        boolean isLookedAt = hasLaws && player.callsLeft() > CALLS_FOR_A_PORTRAIT;
+        Portrait before = !isLookedAt || portrait != null ? portrait : new Portrait(player.made());
+        String answer = player.answer(name, arguments);
+        portrait = isLookedAt ? new Portrait(player.made()) : null;
+        if (isLookedAt) {
+            for (String broken : Laws.brokenBy(name, answer, before, portrait)) {
+                report(place + name + "(" + String.join(", ", arguments) + ") broke a law: " + broken);
             }
         }
-        return all;
+        return answer;
     }
 
-    private static String answer(GuildSeals seals, String name, List<String> arguments) throws Exception {
-        Method method = methodOf(name);
-        Object[] values = new Object[arguments.size()];
-        for (int i = 0; i < values.length; i++) {
-            values[i] = value(method.getParameterTypes()[i], arguments.get(i));
-        }
-        try {
-            return String.valueOf(method.invoke(seals, values));
-        } catch (InvocationTargetException e) {
-            return "throws " + e.getCause().getClass().getSimpleName();
-        }
-    }
-
-    private static Object value(Class<?> type, String text) {
-        if (type == boolean.class) {
-            return Boolean.valueOf(text);
-        }
-        return type == char.class ? (Object) (char) Integer.parseInt(text) : (Object) Integer.valueOf(text);
-    }
-
-    private static Method methodOf(String name) {
-        for (Method method : GuildSeals.class.getDeclaredMethods()) {
-            if (method.getName().equals(name)) {
-                return method;
-            }
-        }
-        throw new IllegalStateException("no method " + name);
-    }
-
-    private static void report(String place, String what) {
+    private static void report(String what) {
         wrong++;
-        System.out.println(place + ": " + what);
+        System.out.println(what);
     }
 }

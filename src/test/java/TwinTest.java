@@ -2,13 +2,14 @@ import java.util.SplittableRandom;
 
 /**
  * Makes the same calls, drawn from a fixed seed, of GuildSeals and of PlainSeals, and compares the
- * answers and, every few calls, all that can be asked for. An exception counts by its very class,
- * so that one that the machine throws shows as well.
+ * answers and, at the end, all that can be asked for. An exception counts by its very class, so that
+ * one that the machine throws shows as well.
  */
 public final class TwinTest {
-    private static final int RUNS = 300;
-    private static final int CALLS = 200;
-    private static final int CALLS_BETWEEN_PORTRAITS = 4;
+    private static final int RUNS = 3000;
+    // The document promises nothing after 512 calls; a step takes at most 61, the portrait the rest.
+    private static final int MOST_CALLS = 512;
+    private static final int CALLS_BEFORE_THE_LAST_STEP = 150;
     private static final int[] ODD = {Integer.MIN_VALUE, Integer.MAX_VALUE, -1, 6, 7, 8, 9, -51, 51, 25};
     private static final String SIGNS = "naqdtfwsrih0123456789.=+-<; x\u00e9\u20ac\u0000";
 
@@ -21,6 +22,7 @@ public final class TwinTest {
     private final PlainSeals plain = new PlainSeals();
     private final StringBuilder told = new StringBuilder();
     private boolean isSame = true;
+    private int calls = 0;
 
     private TwinTest(long seed) {
         random = new SplittableRandom(seed);
@@ -34,15 +36,17 @@ public final class TwinTest {
                 System.exit(1);
             }
         }
-        System.out.println(RUNS + " runs of " + CALLS + " calls, all the same");
+        System.out.println(RUNS + " runs, all the same");
     }
 
     private boolean areSame() {
-        for (int i = 0; i < CALLS && isSame; i++) {
+        int due = random.nextInt(CALLS_BEFORE_THE_LAST_STEP);
+        while (isSame && calls < due) {
             step();
-            if (isSame && i % CALLS_BETWEEN_PORTRAITS == 0) {
-                comparePortraits();
-            }
+        }
+        comparePortraits();
+        if (calls > MOST_CALLS) {
+            throw new IllegalStateException("more calls than the document allows");
         }
         return isSame;
     }
@@ -56,6 +60,7 @@ public final class TwinTest {
     }
 
     private void compare(String call, Call one, Call other) {
+        calls++;
         String got = answerOf(one);
         String due = answerOf(other);
         if (!got.equals(due)) {
@@ -124,7 +129,8 @@ public final class TwinTest {
         int m = random.nextInt(3) == 0 ? below(9) : below(3);
         int g = below(6);
         int o = below(6);
-        switch (random.nextInt(32)) {
+        switch (random.nextInt(38)) {
+            case 32, 33, 34, 35, 36, 37 -> question(m, g);
             case 30 -> undoMany();
             case 31 -> both("restore", () -> seals.restore(), () -> plain.restore());
             case 0 -> both("matter()", () -> seals.matter(), () -> plain.matter());
@@ -239,13 +245,36 @@ public final class TwinTest {
         return number < 10 && random.nextBoolean() ? "0" + number : String.valueOf(number);
     }
 
+    /** With numbers that are out of range at times. */
+    private void question(int m, int g) {
+        int n = below(14) - 1;
+        boolean b = random.nextBoolean();
+        switch (random.nextInt(12)) {
+            case 0 -> both("matterOf " + m + " " + n, () -> seals.matterOf(m, n), () -> plain.matterOf(m, n));
+            case 1 -> both("answer " + m + " " + n, () -> seals.answer(m, n), () -> plain.answer(m, n));
+            case 2 -> both("amount " + m + " " + n, () -> seals.amount(m, n), () -> plain.amount(m, n));
+            case 3 -> both("guildOf " + g + " " + n, () -> seals.guildOf(g, n), () -> plain.guildOf(g, n));
+            case 4 -> both("canLearn " + g, () -> seals.canLearn(g, b), () -> plain.canLearn(g, b));
+            case 5 -> both("ranked " + n, () -> seals.ranked(n), () -> plain.ranked(n));
+            case 6 -> both("account " + n, () -> seals.account(n), () -> plain.account(n));
+            case 7 -> both("book " + n, () -> seals.book(n), () -> plain.book(n));
+            case 8 -> both("wouldSeal " + m, () -> seals.wouldSeal(m), () -> plain.wouldSeal(m));
+            case 9 -> both("character " + n, () -> seals.character(n), () -> plain.character(n));
+            case 10 -> both("refusal " + b, () -> seals.refusal(b), () -> plain.refusal(b));
+            default -> both("errorPosition", () -> seals.errorPosition(), () -> plain.errorPosition());
+        }
+    }
+
     private void comparePortraits() {
         compareMatters();
         compareGuilds();
-        for (int i = -1; i < 14; i++) {
+        for (int i = 0; i < 13; i++) {
             int what = i;
             compare("account " + i, () -> seals.account(what), () -> plain.account(what));
-            compare("book " + i, () -> seals.book(what), () -> plain.book(what));
+        }
+        for (int i = 0; i < plain.account(2) + plain.account(3) + 1; i++) {
+            int place = i;
+            compare("book " + i, () -> seals.book(place), () -> plain.book(place));
         }
         compare("isAwake", () -> seals.isAwake(), () -> plain.isAwake());
         compare("isWell", () -> seals.isWell(), () -> plain.isWell());
@@ -256,31 +285,34 @@ public final class TwinTest {
             compare("refusal " + b, () -> seals.refusal(b), () -> plain.refusal(b));
             compare("coins " + b, () -> seals.coins(b), () -> plain.coins(b));
         }
-        for (int i = -1; i < 41; i++) {
+        for (int i = 0; i < 40; i++) {
             int index = i;
             compare("character " + i, () -> seals.character(index), () -> plain.character(index));
         }
     }
 
     private void compareMatters() {
-        for (int i = -1; i < 9; i++) {
+        for (int i = 0; i < plain.account(0); i++) {
             int m = i;
-            for (int j = -1; j < 9; j++) {
-                int k = j;
-                compare("matterOf " + i + " " + j, () -> seals.matterOf(m, k), () -> plain.matterOf(m, k));
-                compare("answer " + i + " " + j, () -> seals.answer(m, k), () -> plain.answer(m, k));
-                compare("amount " + i + " " + j, () -> seals.amount(m, k), () -> plain.amount(m, k));
+            for (int j = 0; j < 8; j++) {
+                int what = j;
+                compare("matterOf " + i + " " + j, () -> seals.matterOf(m, what), () -> plain.matterOf(m, what));
+            }
+            for (int j = 0; j < 6; j++) {
+                int g = j;
+                compare("answer " + i + " " + j, () -> seals.answer(m, g), () -> plain.answer(m, g));
+                compare("amount " + i + " " + j, () -> seals.amount(m, g), () -> plain.amount(m, g));
             }
             compare("wouldSeal " + i, () -> seals.wouldSeal(m), () -> plain.wouldSeal(m));
         }
     }
 
     private void compareGuilds() {
-        for (int i = -1; i < 7; i++) {
+        for (int i = 0; i < 6; i++) {
             int g = i;
-            for (int j = -1; j < 7; j++) {
-                int k = j;
-                compare("guildOf " + i + " " + j, () -> seals.guildOf(g, k), () -> plain.guildOf(g, k));
+            for (int j = 0; j < 6; j++) {
+                int what = j;
+                compare("guildOf " + i + " " + j, () -> seals.guildOf(g, what), () -> plain.guildOf(g, what));
             }
             compare("canLearn " + i, () -> seals.canLearn(g, false), () -> plain.canLearn(g, false));
             compare("canLearn again " + i, () -> seals.canLearn(g, true), () -> plain.canLearn(g, true));
