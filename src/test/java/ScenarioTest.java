@@ -7,11 +7,15 @@ import java.util.stream.Stream;
 
 /**
  * Runs the calls that the files in src/test/scenarios and src/test/boundaries tell, in the notation
- * of the document's examples; README.md describes it. After each step the laws are looked at, too.
+ * of the document's examples, and the scenario by which README.md describes it. After each step the
+ * laws are looked at, too.
  */
 public final class ScenarioTest {
     private static final Path SCENARIOS = Path.of("src", "test", "scenarios");
     private static final Path BOUNDARIES = Path.of("src", "test", "boundaries");
+    private static final Path README = Path.of("README.md");
+    private static final String README_BEGIN = "```scenario";
+    private static final String README_END = "```";
     private static final int PROMISES = 35;
     // What a portrait and the answers to a refusal need beside the calls of the scenario.
     private static final int CALLS_FOR_A_PORTRAIT = 20;
@@ -34,6 +38,7 @@ public final class ScenarioTest {
     public static void main(String[] args) throws Exception {
         runFolder(SCENARIOS);
         runFolder(BOUNDARIES);
+        runReadme();
         System.out.println(steps + " steps, " + wrong + " wrong");
         if (wrong != 0) {
             System.exit(1);
@@ -52,15 +57,28 @@ public final class ScenarioTest {
             }
         }
         for (Path file : files) {
-            new ScenarioTest().runFile(file);
+            String name = file.getParent().getFileName() + "/" + file.getFileName();
+            new ScenarioTest().runLines(name, Files.readAllLines(file));
         }
     }
 
-    private void runFile(Path file) throws Exception {
-        List<String> lines = Files.readAllLines(file);
+    private static void runReadme() throws Exception {
+        List<String> lines = Files.readAllLines(README);
+        int before = steps;
+        int begin = lines.indexOf(README_BEGIN) + 1;
+        int length = lines.subList(begin, lines.size()).indexOf(README_END);
+        if (begin > 0 && length > 0) {
+            new ScenarioTest().runLines("README.md, line " + begin, lines.subList(begin, begin + length));
+        }
+        if (steps == before) {
+            report("README.md shows no scenario");
+        }
+    }
+
+    private void runLines(String name, List<String> lines) {
         for (int i = 0; i < lines.size(); i++) {
             String line = lines.get(i).strip();
-            place = file.getParent().getFileName() + "/" + file.getFileName() + ":" + (i + 1) + ": ";
+            place = name + ":" + (i + 1) + ": ";
             if (line.startsWith("==")) {
                 player = new Player();
                 portrait = null;
